@@ -479,7 +479,7 @@ public final class CampsiteBooker {
     }
 
     private static void requireCircuit(int number) {
-        if (!isWithin(number, 0, CIRCUITS - 1)) {
+        if (!isCircuit(number)) {
             throw new IndexOutOfBoundsException("there is no such circuit");
         }
     }
@@ -496,6 +496,10 @@ public final class CampsiteBooker {
 
     private static boolean isNight(int night) {
         return night >= 0 && night < NIGHTS;
+    }
+
+    private static boolean isCircuit(int number) {
+        return number >= 0 && number < CIRCUITS;
     }
 
     private static boolean isStay(int first, int nights) {
@@ -558,10 +562,6 @@ public final class CampsiteBooker {
             breadth = other.breadth;
             circuit = other.circuit;
             rate = other.rate;
-        }
-
-        int area() {
-            return length * breadth;
         }
 
         boolean takes(Party party) {
@@ -635,10 +635,6 @@ public final class CampsiteBooker {
             last = other.last;
             stay = other.stay;
         }
-
-        boolean touches(int start, int nights) {
-            return start <= last && start + nights > first;
-        }
     }
 
     /** All that undo and restore bring back. */
@@ -698,7 +694,19 @@ public final class CampsiteBooker {
         }
 
         int circuitOf(int number) {
-            return hasPitch(number) ? pitches[number].circuit : NO_CIRCUIT;
+            return number >= 0 && number < pitchCount ? pitches[number].circuit : NO_CIRCUIT;
+        }
+
+        int rateOf(int number) {
+            return hasPitch(number) ? pitches[number].rate : 0;
+        }
+
+        int areaOf(int number) {
+            return hasPitch(number) ? pitches[number].length * pitches[number].breadth : 0;
+        }
+
+        boolean hasFit(Party party, int number) {
+            return hasPitch(number) && pitches[number].takes(party);
         }
 
         boolean isStillToCome(Party party) {
@@ -736,7 +744,7 @@ public final class CampsiteBooker {
             Party made = parties[partyCount];
             made.copyFrom(newcomer);
             made.pitch = number;
-            made.price = (pitches[number].rate + newcomer.power) * newcomer.nights;
+            made.price = (rateOf(number) + newcomer.power) * newcomer.nights;
             made.isBooked = true;
             partyCount++;
             return partyCount - 1;
@@ -777,8 +785,10 @@ public final class CampsiteBooker {
         int stayAsked(int first, int nights) {
             int most = 1;
             for (int i = 0; i < seasonCount; i++) {
-                if (seasons[i].touches(first, nights)) {
-                    most = Math.max(most, seasons[i].stay);
+                Season season = seasons[i];
+                boolean isMet = first <= season.last && first + nights > season.first;
+                if (isMet && season.stay > most) {
+                    most = season.stay;
                 }
             }
             return most;
@@ -806,14 +816,14 @@ public final class CampsiteBooker {
         }
 
         int obstacleOf(Party party, int itsNumber, int number) {
-            if (!hasPitch(number) || !pitches[number].takes(party)) {
+            if (!hasFit(party, number)) {
                 return NO_FIT;
             }
             long others = busyNights(number, itsNumber);
             if ((others & party.stay) != 0L) {
                 return TAKEN;
             }
-            if (isPowerShort(party, itsNumber, pitches[number].circuit)) {
+            if (isPowerShort(party, itsNumber, circuitOf(number))) {
                 return NO_POWER;
             }
             if (isTooShort(party, others)) {
@@ -823,7 +833,7 @@ public final class CampsiteBooker {
         }
 
         private boolean isPowerShort(Party party, int itsNumber, int circuit) {
-            if (circuit < 0 || circuit >= CIRCUITS) {
+            if (!isCircuit(circuit)) {
                 return false;
             }
             for (int night = party.first; night < party.first + party.nights; night++) {
@@ -1009,7 +1019,7 @@ public final class CampsiteBooker {
             for (int i = 0; i < camp.partyCount; i++) {
                 Party party = camp.parties[i];
                 int circuit = camp.circuitOf(party.pitch);
-                if (party.isBooked && circuit >= 0) {
+                if (party.isBooked && isCircuit(circuit)) {
                     addLoad(circuit, party);
                 }
             }
@@ -1025,7 +1035,7 @@ public final class CampsiteBooker {
         private void sortPitches() {
             for (int i = 0; i < camp.pitchCount; i++) {
                 int place = i;
-                while (place > 0 && camp.pitches[bySize[place - 1]].area() > camp.pitches[i].area()) {
+                while (place > 0 && camp.areaOf(bySize[place - 1]) > camp.areaOf(i)) {
                     bySize[place] = bySize[place - 1];
                     place--;
                 }
@@ -1042,7 +1052,7 @@ public final class CampsiteBooker {
                     inTheWay[0]++;
                 }
             }
-            return inTheWay[0] <= moveCount && camp.pitches[goal].takes(newcomer);
+            return inTheWay[0] <= moveCount && camp.hasFit(newcomer, goal);
         }
 
         private boolean isInTheWay(Party party) {
@@ -1075,11 +1085,11 @@ public final class CampsiteBooker {
         /** Fills a slot unless no plan with it could be right. */
         private boolean chooseMove(int slot, int mover, int goal) {
             Party party = camp.parties[mover];
-            if (!camp.hasPitch(goal) || !camp.isStillToCome(party) || party.pitch == goal) {
+            if (!camp.isStillToCome(party) || !camp.hasPitch(party.pitch) || party.pitch == goal) {
                 return false;
             }
             inTheWay[slot] = inTheWay[slot - 1] - (isInTheWay(party) ? 1 : 0);
-            if (inTheWay[slot] > moveCount - slot || !camp.pitches[goal].takes(party)) {
+            if (inTheWay[slot] > moveCount - slot || !camp.hasFit(party, goal)) {
                 return false;
             }
             who[slot] = party;
@@ -1116,7 +1126,8 @@ public final class CampsiteBooker {
             for (int slot = 0; slot <= moveCount; slot++) {
                 int circuit = newCircuit[slot];
                 Party party = who[slot];
-                for (int night = party.first; circuit >= 0 && night < party.first + party.nights; night++) {
+                int end = isCircuit(circuit) ? party.first + party.nights : party.first;
+                for (int night = party.first; night < end; night++) {
                     if (plannedLoad(circuit, night) > camp.limits[circuit]) {
                         return false;
                     }
@@ -1128,7 +1139,7 @@ public final class CampsiteBooker {
         private int plannedLoad(int circuit, int night) {
             int sum = load[circuit * NIGHTS + night];
             for (int slot = 0; slot <= moveCount; slot++) {
-                if (holds(who[slot].stay, night)) {
+                if ((who[slot].stay >>> night & 1L) != 0L) {
                     sum += newCircuit[slot] == circuit ? who[slot].power : 0;
                     sum -= oldCircuit[slot] == circuit ? who[slot].power : 0;
                 }
@@ -1140,7 +1151,7 @@ public final class CampsiteBooker {
             int more = 0;
             for (int i = 0; i < camp.pitchCount; i++) {
                 if (planned[i] != busy[i]) {
-                    more += camp.countGaps(planned[i]) - camp.countGaps(busy[i]);
+                    more += Long.bitCount(camp.gapEdges(planned[i])) - Long.bitCount(camp.gapEdges(busy[i]));
                 }
             }
             return more > 0;

@@ -495,8 +495,20 @@ public final class PromisesTest {
         for (int number : new int[] {-1, 4, Integer.MIN_VALUE, Integer.MAX_VALUE}) {
             check.fails("pitch " + number, INDEX, x, () -> x.obstacle(0, number));
         }
+        powerBeside();
         obstacleOfGaps();
         obstacleInSpaces();
+    }
+
+    private static void powerBeside() {
+        CampsiteBooker x = new CampsiteBooker();
+        x.addPitch(0, 2, 2, 0);
+        x.addPitch(0, 2, 2, 0);
+        x.book(0, 1, 1, 10, 5, 1);
+        x.book(0, 1, 1, 10, 4, 1);
+        x.book(0, 1, 1, 10, 6, 1);
+        check.same("power in the nights beside does not count", "0 0 0",
+                Check.list(0, 2, q -> x.obstacle(q, 1)));
     }
 
     private static void obstacleOfGaps() {
@@ -642,6 +654,10 @@ public final class PromisesTest {
         check.is("behind cancel", 50, x.peak(1));
         x.book(0, 1, 1, 9, 59, 1);
         check.is("night 59", 59, x.peak(1));
+        x.cancel(4);
+        x.cancel(1);
+        x.book(0, 1, 1, 1, 0, 1);
+        check.is("night 0, power 1", 0, x.peak(1));
         check.fails("another circuit", NONE, x, () -> x.peak(0));
         for (int number : new int[] {-1, 3, Integer.MIN_VALUE, Integer.MAX_VALUE}) {
             check.fails("circuit " + number, INDEX, x, () -> x.peak(number));
@@ -768,6 +784,7 @@ public final class PromisesTest {
         check.theme("promise 32, each change");
         CampsiteBooker x = twoPitches();
         x.addSeason(5, 9, 2);
+        x.addSeason(7, 15, 3);
         x.book(0, 2, 2, 0, 0, 3);
         undoOne(x, "addPitch", () -> x.addPitch(0, 3, 3, 0));
         undoOne(x, "setRate", () -> x.setRate(0, 33));
@@ -784,19 +801,17 @@ public final class PromisesTest {
             }
             x.readBooking();
         });
-        x.setLimit(0, 9);
-        x.undo();
-        check.is("setLimit", 16, x.setLimit(0, 16));
-        x.setGap(4);
-        x.undo();
-        check.is("setGap", 1, x.setGap(1));
+        undoOne(x, "setLimit", () -> x.setLimit(0, 9));
+        check.is("the limit", 16, x.setLimit(0, 16));
+        check.is("the gap limit", 1, x.setGap(1));
     }
 
     private static void undoOne(CampsiteBooker x, String what, Check.Call call) {
-        x.advance(0);
+        x.save();
+        x.restore();
         String before = Check.state(x);
         call.run();
-        x.undo();
+        check.is("it was the only change: " + what, 0, x.undo());
         check.same("the state behind " + what, before, Check.state(x));
     }
 
@@ -843,7 +858,30 @@ public final class PromisesTest {
         x.addSeason(7, 8, 1);
         x.restore();
         check.same("once more", saved, Check.state(x));
+        otherRows();
         stayBehindRestore();
+    }
+
+    /** Behind undo the numbers are given to others, and restore brings the first ones back. */
+    private static void otherRows() {
+        CampsiteBooker x = new CampsiteBooker();
+        x.addPitch(1, 5, 4, 2);
+        x.setRate(0, 66);
+        x.addSeason(3, 9, 2);
+        x.book(1, 3, 2, 7, 20, 5);
+        x.cancel(0);
+        x.book(1, 2, 3, 9, 30, 4);
+        String saved = Check.state(x);
+        x.save();
+        for (int i = 0; i < 6; i++) {
+            x.undo();
+        }
+        x.addPitch(2, 9, 8, -1);
+        x.addSeason(1, 2, 13);
+        x.book(2, 1, 8, 0, 5, 1);
+        x.book(0, 9, 1, 0, 6, 2);
+        x.restore();
+        check.same("all numbers", saved, Check.state(x));
     }
 
     private static void stayBehindRestore() {
