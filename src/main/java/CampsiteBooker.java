@@ -47,11 +47,11 @@ public final class CampsiteBooker {
     private static final int POWER = 4;
     private static final int TEXT_NUMBERS = 5;
 
+    private final Planner planner;
     private final Camp camp;
     private final Camp snapshot;
     private boolean hasSnapshot;
     private final History history;
-    private final Planner planner;
     private final BookingText text;
     private int reason;
     private int latestMoveCount;
@@ -59,11 +59,11 @@ public final class CampsiteBooker {
 
     /** Promise 1. */
     public CampsiteBooker() {
-        camp = new Camp();
+        planner = new Planner();
+        camp = planner.camp;
         snapshot = new Camp();
         hasSnapshot = false;
         history = new History();
-        planner = new Planner(camp);
         text = new BookingText();
         reason = NO_REASON;
         latestMoveCount = 0;
@@ -935,8 +935,8 @@ public final class CampsiteBooker {
     }
 
     /**
-     * Searches the best plan for the newcomer. A plan is held in slots: slot 0 is the newcomer, which comes
-     * from nowhere, slots 1 and 2 are the moves.
+     * Searches the best plan for the newcomer in its camp, which is that of the booker. A plan is held in
+     * slots: slot 0 is the newcomer, which comes from nowhere, slots 1 and 2 are the moves.
      */
     private static final class Planner {
         final Camp camp;
@@ -955,8 +955,8 @@ public final class CampsiteBooker {
         final int[] load;
         final int[] bySize;
 
-        Planner(Camp itsCamp) {
-            camp = itsCamp;
+        Planner() {
+            camp = new Camp();
             newcomer = new Party();
             who = new Party[SLOTS];
             for (int slot = 0; slot < SLOTS; slot++) {
