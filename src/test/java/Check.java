@@ -1,13 +1,15 @@
+import java.util.Map;
 import java.util.NoSuchElementException;
+import java.util.function.Supplier;
 
 /** Counts the answers that are not due, and tells them. */
 final class Check {
-    interface Call {
-        void run();
-    }
-
     interface Ask {
         int ask(int number);
+    }
+
+    interface Use {
+        int use(Booker x, int number);
     }
 
     private String theme = "";
@@ -30,24 +32,56 @@ final class Check {
         }
     }
 
-    /** A call must throw exactly this, and leave all that can be asked as it was. */
-    void fails(String what, Class<? extends RuntimeException> want, CampsiteBooker x, Call call) {
-        String before = state(x);
+    /** A call must throw exactly this and leave all that can be found out as it was, but for the parts that are named. */
+    void fails(String what, Class<? extends RuntimeException> want, Booker x, Runnable call, String... but) {
+        Map<String, String> before = View.of(x, but);
         same(what, want.getSimpleName(), outcome(call));
-        same("the state behind " + what, before, state(x));
+        sameView("behind " + what, before, View.of(x, but));
     }
 
-    void fails(String what, Class<? extends RuntimeException> want, Call call) {
-        same(what, want.getSimpleName(), outcome(call));
+    /** A booking must be refused for this reason, which is all that it changes. */
+    void refused(String what, int reason, Booker x, Runnable call) {
+        fails(what, UnsupportedOperationException.class, x, call, View.REASON);
+        is("the reason of " + what, reason, x.refusal());
     }
 
-    private static String outcome(Call call) {
+    /** The text in the buffer must be refused for this reason, which, with the buffer, is all that it changes. */
+    void refusedText(String what, int reason, Booker x) {
+        fails(what, UnsupportedOperationException.class, x, x::readBooking, View.TEXT, View.REASON);
+        is("the reason of " + what, reason, x.refusal());
+    }
+
+    void sameView(String what, Map<String, String> want, Map<String, String> got) {
+        same("parts " + what, want.keySet().toString(), got.keySet().toString());
+        for (String part : want.keySet()) {
+            same(part + " " + what, want.get(part), got.get(part));
+        }
+    }
+
+    /** The least and the greatest number are taken, and are kept if that can be asked. */
+    void takes(String what, int least, int most, Supplier<Booker> made, Use use, Use kept) {
+        for (int number : new int[] {least, most}) {
+            Booker x = made.get();
+            same(what + " " + number, "taken", outcome(() -> use.use(x, number)).equals("") ? "taken" : "not taken");
+            is(what + " " + number + " is kept", number, kept.use(x, number));
+        }
+    }
+
+    /** The numbers beside the least and the greatest one and those far away throw this and change nothing. */
+    void refuses(String what, Class<? extends RuntimeException> want, int least, int most, Booker x, Use use) {
+        for (int number : new int[] {least - 1, most + 1, Integer.MIN_VALUE, Integer.MAX_VALUE}) {
+            fails(what + " " + number, want, x, () -> use.use(x, number));
+        }
+    }
+
+    /** What a call throws, nothing if it throws nothing. */
+    static String outcome(Runnable call) {
         try {
             call.run();
         } catch (RuntimeException e) {
             return e.getClass().getSimpleName();
         }
-        return "nothing thrown";
+        return "";
     }
 
     /** The answers to numbers from 0 upwards, or what is thrown instead. */
@@ -67,52 +101,6 @@ final class Check {
         } catch (RuntimeException e) {
             return e.getClass().getSimpleName();
         }
-    }
-
-    /** All that can be asked of a booker without changing it. */
-    static String state(CampsiteBooker x) {
-        StringBuilder all = new StringBuilder();
-        int pitches = x.account(0);
-        int parties = x.account(1) + x.account(2);
-        all.append("tonight ").append(x.tonight()).append(" accounts ").append(list(0, 7, x::account));
-        for (int i = 0; i < pitches; i++) {
-            int p = i;
-            all.append("\npitch ").append(list(0, 6, what -> x.pitch(p, what)));
-            all.append(" busy ").append(list(0, x.pitch(p, 5), n -> x.busyNight(p, n)));
-            all.append(" gaps ").append(list(0, x.pitch(p, 6), g -> x.gap(p, g, false)));
-            all.append(" to ").append(list(0, x.pitch(p, 6), g -> x.gap(p, g, true)));
-            all.append(" free ").append(list(1, 14, n -> x.firstFree(p, 0, n)));
-            all.append(" who ").append(list(0, 59, n -> x.occupant(p, n)));
-            all.append(" obstacles ").append(list(0, parties - 1, q -> x.obstacle(q, p)));
-        }
-        for (int i = 0; i < parties; i++) {
-            int p = i;
-            all.append("\nparty ").append(list(0, 9, what -> x.party(p, what)));
-        }
-        for (int i = 0; i < x.account(7); i++) {
-            int s = i;
-            all.append("\nseason ").append(list(0, 2, what -> x.season(s, what)));
-        }
-        for (int i = 0; i < 3; i++) {
-            int c = i;
-            all.append("\ncircuit ").append(list(0, 59, n -> x.power(c, n)));
-            all.append(" peak ").append(answer(x::peak, c));
-        }
-        all.append("\nstays ").append(list(0, 59, n -> x.leastStay(n, 1)));
-        return all.append("\nlatest ").append(latest(x)).toString();
-    }
-
-    /** What undo and restore leave as it is. */
-    static String latest(CampsiteBooker x) {
-        StringBuilder all = new StringBuilder();
-        all.append("fault ").append(x.faultPosition());
-        all.append(" reason ").append(answer(n -> x.refusal(), 0));
-        all.append(" moves ").append(x.moves());
-        for (int i = 0; i < x.moves(); i++) {
-            int m = i;
-            all.append(" (").append(list(0, 2, part -> x.moveOf(m, part))).append(")");
-        }
-        return all.toString();
     }
 
     void end() {

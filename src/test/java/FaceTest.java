@@ -1,4 +1,6 @@
+import java.io.IOException;
 import java.lang.reflect.Constructor;
+import java.lang.reflect.Executable;
 import java.lang.reflect.Field;
 import java.lang.reflect.Method;
 import java.lang.reflect.Modifier;
@@ -6,68 +8,63 @@ import java.util.ArrayList;
 import java.util.Collections;
 import java.util.List;
 
-/** The class has the document's face, and no more of it. */
+/** The class has the document's face, and no more of it; run from the project's directory. */
 public final class FaceTest {
-    private static final String[] FACE = {
-        "int account(int)", "int addPitch(int,int,int,int)", "int addSeason(int,int,int)", "int advance(int)",
-        "int book(int,int,int,int,int,int)", "int busyNight(int,int)", "int cancel(int)", "int dropSeason(int)",
-        "int faultPosition()", "int firstFree(int,int,int)", "int gap(int,int,boolean)", "int leastStay(int,int)",
-        "int move(int,int)", "int moveOf(int,int)", "int moves()", "int obstacle(int,int)", "int occupant(int,int)",
-        "int party(int,int)", "int peak(int)", "int pitch(int,int)", "int power(int,int)", "int readBooking()",
-        "int refusal()", "int season(int,int)", "int setGap(int)", "int setLimit(int,int)", "int setRate(int,int)",
-        "int tonight()", "int undo()", "double share()", "void append(char)", "void restore()", "void save()",
-    };
-
-    public static void main(String[] args) {
+    public static void main(String[] args) throws IOException {
         Check check = new Check();
         check.theme("face");
         Class<?> type = CampsiteBooker.class;
         check.is("public and final", Modifier.PUBLIC | Modifier.FINAL, type.getModifiers());
-        check.is("constructors", 1, type.getDeclaredConstructors().length);
-        for (Constructor<?> made : type.getDeclaredConstructors()) {
-            check.same("constructor", "public CampsiteBooker()", made.toString());
-        }
+        members(check, type, Document.read().face());
         for (Field field : type.getDeclaredFields()) {
-            check.is("private field " + field.getName(), 1, Modifier.isPrivate(field.getModifiers()) ? 1 : 0);
-            boolean isStatic = Modifier.isStatic(field.getModifiers());
+            int modifiers = field.getModifiers();
+            check.is("private field " + field.getName(), 1, Modifier.isPrivate(modifiers) ? 1 : 0);
             check.is("static is final: " + field.getName(), 1,
-                    !isStatic || Modifier.isFinal(field.getModifiers()) ? 1 : 0);
+                    !Modifier.isStatic(modifiers) || Modifier.isFinal(modifiers) ? 1 : 0);
         }
-        methods(check, type);
         for (Class<?> inside : type.getDeclaredClasses()) {
-            boolean isHidden = Modifier.isPrivate(inside.getModifiers());
+            int modifiers = inside.getModifiers();
             check.is("private and static class " + inside.getName(), 1,
-                    isHidden && Modifier.isStatic(inside.getModifiers()) ? 1 : 0);
+                    Modifier.isPrivate(modifiers) && Modifier.isStatic(modifiers) ? 1 : 0);
         }
         check.end();
     }
 
-    private static void methods(Check check, Class<?> type) {
-        List<String> names = new ArrayList<>();
-        List<String> due = new ArrayList<>(List.of(FACE));
+    private static void members(Check check, Class<?> type, List<String> face) {
         List<String> found = new ArrayList<>();
-        for (String line : FACE) {
-            names.add(line.substring(line.indexOf(' ') + 1, line.indexOf('(')));
+        for (Constructor<?> made : type.getDeclaredConstructors()) {
+            found.add(line(made, type.getSimpleName()));
         }
         for (Method method : type.getDeclaredMethods()) {
+            String result = method.getReturnType().getName();
             if (Modifier.isPrivate(method.getModifiers())) {
-                check.is("own name of " + method, 0, names.contains(method.getName()) ? 1 : 0);
+                boolean isOwn = face.stream().noneMatch(line -> line.contains(" " + method.getName() + "("));
+                check.is("own name of " + method, 1, isOwn ? 1 : 0);
             } else {
-                check.is("public " + method, 1, Modifier.isPublic(method.getModifiers()) ? 1 : 0);
-                found.add(line(method));
+                found.add(line(method, result + " " + method.getName()));
             }
         }
-        Collections.sort(due);
+        Collections.sort(face);
         Collections.sort(found);
-        check.same("methods", due.toString(), found.toString());
+        check.is("lines of the document's face", 34, face.size());
+        check.same("members", String.join("\n", face), String.join("\n", found));
     }
 
-    private static String line(Method method) {
-        StringBuilder line = new StringBuilder();
-        line.append(method.getReturnType().getName()).append(' ').append(method.getName()).append('(');
-        for (Class<?> part : method.getParameterTypes()) {
-            line.append(line.charAt(line.length() - 1) == '(' ? "" : ",").append(part.getName());
+    /** A member as the document writes it, without the names of its parameters. */
+    private static String line(Executable member, String head) {
+        StringBuilder line = new StringBuilder(Modifier.toString(member.getModifiers()));
+        line.append(' ').append(head).append('(');
+        String separator = "";
+        for (Class<?> parameter : member.getParameterTypes()) {
+            line.append(separator).append(parameter.getName());
+            separator = ", ";
         }
-        return line.append(')').toString();
+        line.append(')');
+        separator = " throws ";
+        for (Class<?> thrown : member.getExceptionTypes()) {
+            line.append(separator).append(thrown.getSimpleName());
+            separator = ", ";
+        }
+        return line.toString();
     }
 }

@@ -1,7 +1,8 @@
 /** Long runs of calls, made by a row of numbers that is always the same, answered as the model answers them. */
 public final class ModelTest {
-    private static final int RUNS = 120;
-    private static final int CALLS = 512;
+    private static final int RUNS = 400;
+    /** More than the calls that one round makes. */
+    private static final int ROUND = 60;
 
     private static final Check check = new Check();
     private static long seed;
@@ -53,43 +54,53 @@ public final class ModelTest {
     }
 
     private static void run() {
-        CampsiteBooker x = new CampsiteBooker();
+        Booker x = new Booker();
         Model m = new Model();
         int span = from(4, 30);
         int most = from(2, 8);
         for (int i = 0; i < from(2, 5); i++) {
             pitch(x, m);
         }
-        for (int i = 0; i < CALLS - 5; i++) {
+        while (x.callsMade() < Booker.MOST_CALLS - ROUND) {
             call(x, m, from(0, 99), span, most);
+        }
+        while (x.callsMade() < Booker.MOST_CALLS) {
+            ask(x, m, from(0, 49));
         }
     }
 
-    private static void pitch(CampsiteBooker x, Model m) {
+    private static void pitch(Booker x, Model m) {
         int[] n = {from(0, 2), from(2, 6), from(2, 6), from(-1, 1)};
         compare("addPitch", n, () -> x.addPitch(n[0], n[1], n[2], n[3]), () -> m.addPitch(n[0], n[1], n[2], n[3]));
     }
 
-    private static void call(CampsiteBooker x, Model m, int way, int span, int most) {
-        if (way < 25) {
+    private static void call(Booker x, Model m, int way, int span, int most) {
+        if (way < 50) {
+            ask(x, m, way);
+        } else if (way < 70) {
+            change(x, m, way - 50);
+            latest(x, m);
+        } else if (way < 95) {
             book(x, m, span, most);
-        } else if (way < 45) {
-            change(x, m, way - 25);
-        } else if (way < 50) {
-            text(x, m, span);
+            latest(x, m);
         } else {
-            ask(x, m, way - 50);
+            text(x, m, span);
+            latest(x, m);
         }
-        String latest = Check.latest(x);
-        StringBuilder due = new StringBuilder("fault " + m.fault + " reason ");
-        due.append(m.reason == 0 ? "none" : Integer.toString(m.reason)).append(" moves ").append(m.latest.size());
-        for (int[] move : m.latest) {
-            due.append(" (").append(move[0]).append(' ').append(move[1]).append(' ').append(move[2]).append(')');
-        }
-        check.same("latest", due.toString(), latest);
     }
 
-    private static void book(CampsiteBooker x, Model m, int span, int most) {
+    private static void latest(Booker x, Model m) {
+        check.is("fault position", m.fault, x.faultPosition());
+        check.same("reason", m.reason == 0 ? "none" : Integer.toString(m.reason), Check.answer(n -> x.refusal(), 0));
+        StringBuilder due = new StringBuilder();
+        for (int[] move : m.latest) {
+            due.append(due.length() == 0 ? "" : ", ");
+            due.append(move[0]).append(' ').append(move[1]).append(' ').append(move[2]);
+        }
+        check.same("latest moves", due.toString(), Sites.plan(x));
+    }
+
+    private static void book(Booker x, Model m, int span, int most) {
         int first = Math.min(x.tonight() + next(span), 59);
         int[] n = {near(0, 1), near(1, 4), near(1, 4), next(2) == 0 ? 0 : near(0, 10), first, near(1, most)};
         if (next(25) == 0) {
@@ -99,7 +110,7 @@ public final class ModelTest {
                 () -> m.book(n[0], n[1], n[2], n[3], n[4], n[5])));
     }
 
-    private static void booked(CampsiteBooker x, Model m, int[] n, String answer) {
+    private static void booked(Booker x, Model m, int[] n, String answer) {
         if (answer.equals("UnsupportedOperationException")) {
             refusals[x.refusal()]++;
         } else if (!answer.endsWith("Exception")) {
@@ -107,7 +118,7 @@ public final class ModelTest {
         }
     }
 
-    private static void change(CampsiteBooker x, Model m, int way) {
+    private static void change(Booker x, Model m, int way) {
         int[] n = {near(0, 11), near(0, 5), near(0, 40), near(0, 59), near(0, 59), near(1, 5)};
         switch (way) {
             case 0:
@@ -168,7 +179,7 @@ public final class ModelTest {
         }
     }
 
-    private static void text(CampsiteBooker x, Model m, int span) {
+    private static void text(Booker x, Model m, int span) {
         int first = Math.min(x.tonight() + next(span), 59);
         String text = "tcm".charAt(next(3)) + "" + near(1, 4) + "x" + near(1, 4) + "@" + first + "+" + from(1, 6);
         if (next(2) == 0) {
@@ -194,7 +205,7 @@ public final class ModelTest {
         booked(x, m, none, compare("readBooking of " + text, none, () -> x.readBooking(), () -> m.readBooking()));
     }
 
-    private static void ask(CampsiteBooker x, Model m, int way) {
+    private static void ask(Booker x, Model m, int way) {
         int[] n = {near(0, 11), near(0, 5), near(0, 59), near(0, 9), near(1, 14), near(0, 2)};
         boolean isLast = next(2) == 0;
         switch (way % 18) {

@@ -1,4 +1,7 @@
 import java.io.IOException;
+import java.lang.reflect.Field;
+import java.lang.reflect.Method;
+import java.lang.reflect.Modifier;
 import java.nio.charset.StandardCharsets;
 import java.nio.file.Files;
 import java.nio.file.Path;
@@ -8,6 +11,11 @@ import java.util.regex.Pattern;
 /** What of ../shared/LANGUAGE.md can be seen in the text of the program; run from the project's directory. */
 public final class RulesTest {
     private static final int MOST_LINES = 60;
+    private static final int MOST_CLASSES = 12;
+    private static final int MOST_FIELDS = 20;
+    private static final int MOST_PARAMETERS = 7;
+    private static final Pattern THROW = Pattern.compile("throw new (IllegalState|IllegalArgument|IndexOutOfBounds"
+            + "|Arithmetic|UnsupportedOperation|NoSuchElement|Runtime)Exception\\(\"\"\\);");
 
     private static final String[] NOT_ALLOWED = {
         "->", "::", "\\bcatch\\b", "\\bfinally\\b", "\\bsynchronized\\b", "\\bassert\\b", "\\bvar\\b", "\\bpackage\\b",
@@ -35,8 +43,46 @@ public final class RulesTest {
                 check.is("a sign of the text", ' ', c);
             }
         }
+        exceptions(check, code);
         methodLengths(check, source);
+        sizes(check);
         check.end();
+    }
+
+    private static void exceptions(Check check, String code) {
+        Matcher thrown = Pattern.compile("\\bthrow\\b").matcher(code);
+        int throwsInAll = 0;
+        while (thrown.find()) {
+            throwsInAll++;
+        }
+        Matcher allowed = THROW.matcher(code);
+        int allowedOnes = 0;
+        while (allowed.find()) {
+            allowedOnes++;
+        }
+        check.is("exceptions that may be thrown", throwsInAll, allowedOnes);
+    }
+
+    private static void sizes(Check check) {
+        Class<?>[] inside = CampsiteBooker.class.getDeclaredClasses();
+        check.is("few classes", 1, inside.length + 1 <= MOST_CLASSES ? 1 : 0);
+        sizes(check, CampsiteBooker.class);
+        for (Class<?> type : inside) {
+            sizes(check, type);
+        }
+    }
+
+    private static void sizes(Check check, Class<?> type) {
+        int fields = 0;
+        for (Field field : type.getDeclaredFields()) {
+            boolean isStatic = Modifier.isStatic(field.getModifiers());
+            fields += isStatic ? 0 : 1;
+            check.is("a constant " + field, 1, !isStatic || Modifier.isFinal(field.getModifiers()) ? 1 : 0);
+        }
+        check.is("few fields in " + type, 1, fields <= MOST_FIELDS ? 1 : 0);
+        for (Method method : type.getDeclaredMethods()) {
+            check.is("few parameters of " + method, 1, method.getParameterCount() <= MOST_PARAMETERS ? 1 : 0);
+        }
     }
 
     /** A method ends with the first brace that stands as far in as its head. */
