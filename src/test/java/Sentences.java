@@ -5,7 +5,7 @@ import java.util.Set;
 
 /** Which sentence of the document which test holds; in the end, each one must have a test. */
 final class Sentences {
-    final Check check;
+    private final Check check;
     private final Document document;
     private final Set<String> tested = new HashSet<>();
     private String place = "";
@@ -30,7 +30,21 @@ final class Sentences {
             }
         }
         check.is("sentences that begin so", 1, found);
-        check.same("what the test throws", "", Check.outcome(test));
+        check.same("the test", "ended", outcome(test));
+    }
+
+    private static String outcome(Runnable test) {
+        try {
+            test.run();
+        } catch (RuntimeException e) {
+            StringBuilder where = new StringBuilder("threw ").append(e);
+            for (StackTraceElement frame : e.getStackTrace()) {
+                boolean isChapter = frame.getClassName().matches("\\w+(Sentences|Promises)");
+                where.append(isChapter ? " at " + frame.getFileName() + ":" + frame.getLineNumber() : "");
+            }
+            return where.toString();
+        }
+        return "ended";
     }
 
     /** Words that ask for nothing. */
