@@ -1,6 +1,7 @@
 /** Long runs of calls, made by a row of numbers that is always the same, answered as the model answers them. */
 public final class ModelTest {
     private static final int RUNS = 400;
+    private static final int CROWD_CALLS = 24;
     /** More than the calls that one round makes. */
     private static final int ROUND = 60;
 
@@ -16,12 +17,14 @@ public final class ModelTest {
             seed = 1234567L + 7919L * run;
             check.theme("run " + run);
             run();
+            check.theme("crowd " + run);
+            crowd();
         }
         check.theme("what the runs met");
         System.out.println("bookings by moves " + java.util.Arrays.toString(bookings)
                 + ", refusals by reason " + java.util.Arrays.toString(refusals));
         for (int moves = 0; moves <= 2; moves++) {
-            check.is("bookings with " + moves + " moves", 1, bookings[moves] >= 20 ? 1 : 0);
+            check.is("bookings with " + moves + " moves", 1, bookings[moves] >= 100 ? 1 : 0);
         }
         for (int reason = 1; reason <= 5; reason++) {
             check.is("refusals for " + reason, 1, refusals[reason] >= 20 ? 1 : 0);
@@ -66,6 +69,31 @@ public final class ModelTest {
         }
         while (x.callsMade() < Booker.MOST_CALLS) {
             ask(x, m, from(0, 49));
+        }
+    }
+
+    /** All pitches and few nights, and nothing asked but at the end, so that many parties find room by moves alone. */
+    private static void crowd() {
+        Booker x = new Booker();
+        Model m = new Model();
+        int span = from(5, 14);
+        int most = from(2, 6);
+        for (int i = 0; i < 6; i++) {
+            pitch(x, m);
+        }
+        for (int i = 0; i < CROWD_CALLS; i++) {
+            if (next(4) == 0) {
+                change(x, m, from(2, 16));
+            } else {
+                book(x, m, span, most);
+            }
+            latest(x, m);
+        }
+        for (int party = 0; party < 12; party++) {
+            for (int what = 4; what < 10; what++) {
+                int[] n = {party, what};
+                compare("party", n, () -> x.party(n[0], n[1]), () -> m.party(n[0], n[1]));
+            }
         }
     }
 

@@ -5,12 +5,17 @@ import java.lang.reflect.Modifier;
 import java.nio.charset.StandardCharsets;
 import java.nio.file.Files;
 import java.nio.file.Path;
+import java.util.ArrayList;
+import java.util.HashSet;
+import java.util.List;
+import java.util.Set;
 import java.util.regex.Matcher;
 import java.util.regex.Pattern;
 
 /** What of ../shared/LANGUAGE.md can be seen in the text of the program; run from the project's directory. */
 public final class RulesTest {
     private static final int MOST_LINES = 60;
+    private static final int MOST_LEVELS = 8;
     private static final int MOST_CLASSES = 12;
     private static final int MOST_FIELDS = 20;
     private static final int MOST_PARAMETERS = 7;
@@ -44,7 +49,9 @@ public final class RulesTest {
             }
         }
         exceptions(check, code);
-        methodLengths(check, source);
+        Methods methods = new Methods(code);
+        methods(check, methods);
+        found(check, methods);
         sizes(check);
         check.end();
     }
@@ -85,21 +92,38 @@ public final class RulesTest {
         }
     }
 
-    /** A method ends with the first brace that stands as far in as its head. */
-    private static void methodLengths(Check check, String source) {
-        String[] lines = source.split("\n");
-        Pattern head = Pattern.compile("^( +)(?!return|throw|new|else|switch)[\\w\\[\\]<> ]+\\(.*");
-        for (int i = 0; i < lines.length; i++) {
-            Matcher m = head.matcher(lines[i]);
-            int indent = m.matches() ? m.group(1).length() : 0;
-            if (indent == 4 || indent == 8) {
-                int end = i;
-                while (end < lines.length && !lines[end].equals(" ".repeat(indent) + "}")) {
-                    end++;
-                }
-                boolean isShort = end - i < MOST_LINES || !lines[i].endsWith("{");
-                check.is("a short method at line " + (i + 1), 1, isShort ? 1 : 0);
+    private static void methods(Check check, Methods methods) {
+        Set<String> face = new HashSet<>();
+        for (Method method : CampsiteBooker.class.getDeclaredMethods()) {
+            if (Modifier.isPublic(method.getModifiers())) {
+                face.add(method.getName());
             }
         }
+        for (Methods.Method method : methods.all()) {
+            String title = method.title();
+            check.is("a short method " + title, 1, method.lines <= MOST_LINES ? 1 : 0);
+            check.same("calls in " + title, "few", methods.depth(method) <= MOST_LEVELS ? "few" : "many");
+            boolean isOwn = method.type.equals("CampsiteBooker") || !face.contains(method.name);
+            check.is("own name of " + title, 1, isOwn ? 1 : 0);
+            boolean isMaking = method.body.replaceAll("throw new", "").matches("(?s).*\\bnew\\b.*");
+            check.is("an object made in " + title, 1, method.isConstructor() || !isMaking ? 1 : 0);
+        }
+    }
+
+    /** Each method of the class is among those that are found in the text. */
+    private static void found(Check check, Methods methods) {
+        int declared = 0;
+        List<Class<?>> types = new ArrayList<>(List.of(CampsiteBooker.class.getDeclaredClasses()));
+        types.add(CampsiteBooker.class);
+        for (Class<?> type : types) {
+            for (Method method : type.getDeclaredMethods()) {
+                declared += method.isSynthetic() ? 0 : 1;
+            }
+        }
+        int seen = 0;
+        for (Methods.Method method : methods.all()) {
+            seen += method.isConstructor() ? 0 : 1;
+        }
+        check.is("methods in the text", declared, seen);
     }
 }
